@@ -780,7 +780,7 @@ public final class WitnessBench {
             return least;
         }
 
-        /** A later kind of step must be cheaper to be taken: so those that are named first win when costs are the same. */
+        /** Kinds of steps are offered in the order of preference: a later one must be cheaper to be taken. */
         private void settle(int p, int j, int matchCost) {
             int here = p * COLUMNS + j;
             costs[here] = p == oldPlaces && j == newWords ? 0 : FAR;

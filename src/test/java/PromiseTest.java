@@ -152,12 +152,22 @@ public final class PromiseTest {
         return "endless";
     }
 
+    private static String out(WitnessBench x, int from, int to) {
+        StringBuilder b = new StringBuilder();
+        for (int k = from; k < to; k++) {
+            b.append((char) x.out(k));
+        }
+        return b.toString();
+    }
+
     private static String built(WitnessBench x, int count) {
         StringBuilder b = new StringBuilder();
         for (int i = 0; i < count; i++) {
             b.append(i == 0 ? "" : " ");
-            for (int k = 0; x.built(i, k) != NONE; k++) {
-                b.append((char) x.built(i, k));
+            int k = 0;
+            for (int c = x.built(i, k); c != NONE; c = x.built(i, k)) {
+                b.append((char) c);
+                k++;
             }
         }
         return b.toString();
@@ -404,6 +414,13 @@ public final class PromiseTest {
         witness(x, 3, "cc");
         due("words that come later", x.distance(3, 0, 0, 0), 0);
         due("gaps equal gaps alone", x.distance(2, 2, 0, 0), 4);
+
+        WitnessBench y = bench("p", "aa bb");
+        y.equate(1, 0, 1, 1);
+        rule(y, "z", "");
+        due("equalities hold when rules come", y.distance(1, 0, 1, 1), 0);
+        due("and no others", y.distance(0, 0, 1, 0), 4);
+        due("and no others", y.distance(0, 0, 1, 1), 4);
     }
 
     // Promise 8.
@@ -600,6 +617,13 @@ public final class PromiseTest {
         y.join(2);
         due("the first one joined is the base again", y.apparatus(false), 0);
 
+        WitnessBench again = joined("a", "b");
+        again.base(1);
+        again.retract();
+        again.join(1);
+        again.apparatus(false);
+        dueText("no base any more, also when it is joined again", out(again), "0 -] a A; b B\n");
+
         WitnessBench z = joined("a", "b");
         z.choose(0, 1);
         z.retract();
@@ -640,6 +664,9 @@ public final class PromiseTest {
         due("nothing there", y.beside(0, 0, 1), NONE);
         due("nothing there", y.beside(1, 2, 0), NONE);
         due("third", y.beside(3, 0, 1), 0);
+        due("at the first place", y.beside(0, 0, 0), 0);
+        WitnessBench z = joined("a", "a");
+        due("at the first place", z.beside(1, 0, 0), 0);
         due("not joined", y.beside(0, 0, 2), NONE);
         dueThrow("no place", INDEX, () -> y.at(4, 0));
         dueThrow("no place -1", INDEX, () -> y.at(-1, 0));
@@ -770,26 +797,27 @@ public final class PromiseTest {
         dueText("forms without letters are alike, gaps are not", out(x), "1 -] - D; . AC; ? B\n");
     }
 
+    private static WitnessBench manyPlaces() {
+        WitnessBench x = joined(far('a', 10), far('h', 10), far('o', 10));
+        rule(x, "a", "aa");
+        rule(x, "b", "bb");
+        x.base(NONE);
+        return x;
+    }
+
     private static void apparatusOfManyPlaces() {
         part = "16 apparatus: many places, long forms";
-        WitnessBench x = joined(far('a', 10), far('h', 10), far('o', 10));
-        for (char c = 'a'; c < 'c'; c++) {
-            rule(x, "" + c, "" + c + c);
-        }
-        x.base(NONE);
-        int n = x.apparatus(false);
-        String text = out(x);
-        due("length", n, text.length());
-        String first = "0 -] - BC; aaaaaaaaaaaa A\n1 -] - BC; bbbbbbbbbbbb A\n2 -] - BC; cccccc A\n";
-        dueText("first entries", text.substring(0, first.length()), first);
-        String last = "\n10 -] - AC; kkkkkk B\n";
-        dueText("two digits", text.contains(last) ? last : text, last);
+        WitnessBench x = manyPlaces();
+        due("length", x.apparatus(false), 506);
+        dueText("first entries", out(x, 0, 72),
+                "0 -] - BC; aaaaaaaaaaaa A\n1 -] - BC; bbbbbbbbbbbb A\n2 -] - BC; cccccc A\n");
+        dueText("two digits", out(x, 485, 506), "23 -] - AB; xxxxxx C\n");
+        String[] wants = {"aaaaaaaaaaaa bbbbbbbbbbbb " + far('c', 8), far('h', 10), far('o', 10)};
         for (int w = 0; w < 3; w++) {
-            due("rebuild", x.rebuild(w), 10);
-            String want = w == 0
-                    ? "aaaaaaaaaaaa bbbbbbbbbbbb " + far('c', 8)
-                    : far(w == 1 ? 'h' : 'o', 10);
-            dueText("built " + w, built(x, 10), want);
+            WitnessBench z = manyPlaces();
+            z.apparatus(w == 1);
+            due("rebuild", z.rebuild(w), 10);
+            dueText("built " + w, built(z, 10), wants[w]);
         }
         WitnessBench y = joined("aaaaaa", "bbbbbb", "cccccc", "dddddd");
         for (char c = 'a'; c < 'e'; c++) {
@@ -1004,6 +1032,8 @@ public final class PromiseTest {
         due("AC", x.rebuild(0), 1);
         overwrite(x, "0 a] b  C\n");
         due("none", x.rebuild(0), -107);
+        overwrite(x, "0 a] bb \n ");
+        due("no witnesses at all", x.rebuild(0), -108);
         overwrite(x, "0 a] b bC\n");
         due("small", x.rebuild(0), -107);
         x.apparatus(false);
@@ -1035,6 +1065,13 @@ public final class PromiseTest {
         overwriteFails(x, "0 -] a ABCDA", 11);
         overwriteFails(x, "0 -] a ABDCE", 7);
         overwriteFails(x, "0 -] a ABCD;", 12);
+        part = "19 rebuild: the end of a shorter OUT";
+        WitnessBench shorter = joined("a", "b", "b");
+        shorter.apparatus(false);
+        dueText("OUT", out(shorter), "0 a] a A; b BC\n");
+        shorter.apparatus(true);
+        overwriteFails(shorter, "0 a] b B; ", 10);
+        part = "19 rebuild: long tokens";
         WitnessBench y = joined("aaaaaa", "b");
         rule(y, "a", "ab");
         y.apparatus(true);
@@ -1116,6 +1153,10 @@ public final class PromiseTest {
         dueThrow("no fourth", INDEX, () -> x.found(3));
         dueThrow("before", INDEX, () -> x.found(-1));
         due("the draft stays", x.type('c'), 2);
+        WitnessBench lone = bench("k", "l");
+        draft(lone, "k");
+        due("the very first word", lone.concord(), 1);
+        due("the very first word", lone.found(0), 0);
         due("cc", x.concord(), 0);
         dueThrow("none", INDEX, () -> x.found(0));
         x.cut(0);
@@ -1166,6 +1207,8 @@ public final class PromiseTest {
         dueThrow("the same, not joined", ARGUMENT, () -> x.blocks(1, 1));
         dueThrow("no witness", INDEX, () -> x.blocks(4, 4));
         dueThrow("no witness", INDEX, () -> x.blocks(0, NONE));
+        dueThrow("no witness", INDEX, () -> x.blocks(4, 0));
+        dueThrow("no witness", INDEX, () -> x.blocks(NONE, 0));
         x.join(1);
         due("two", x.blocks(0, 1), 2);
         dueText("two", blocks(x, 2), "0,3,3 3,0,3");
