@@ -1065,6 +1065,12 @@ public final class PromiseTest {
         overwriteFails(x, "0 -] a ABCDA", 11);
         overwriteFails(x, "0 -] a ABDCE", 7);
         overwriteFails(x, "0 -] a ABCD;", 12);
+        WitnessBench four = joined("aaaaaa", "b", "c", "d");
+        four.base(NONE);
+        four.apparatus(true);
+        dueText("OUT", out(four), "0 -] aaaaaa A; b B; c C; d D\n");
+        overwriteFails(four, "0 -] a A; b B; c C; d D; e A\n", 27);
+        overwriteFails(four, "0 -] a A; b B; c C; d D\n0 -] ", 24);
         part = "19 rebuild: the end of a shorter OUT";
         WitnessBench shorter = joined("a", "b", "b");
         shorter.apparatus(false);
