@@ -1,20 +1,5 @@
 /** Each promise of the document: ordinary inputs, the edges that it names, and wrong inputs. */
-public final class PromiseTest {
-    private static final int NONE = WitnessBench.NONE;
-    private static final Class<?> INDEX = IndexOutOfBoundsException.class;
-    private static final Class<?> STATE = IllegalStateException.class;
-    private static final Class<?> ARGUMENT = IllegalArgumentException.class;
-    private static final Class<?> UNSUPPORTED = UnsupportedOperationException.class;
-    private static final int FAR_OFF = Integer.MAX_VALUE;
-
-    private static int checks = 0;
-    private static int wrong = 0;
-    private static String part = "";
-
-    private interface Call {
-        void run();
-    }
-
+public final class PromiseTest extends TestTools {
     public static void main(String[] args) {
         newObject();
         typeAndCut();
@@ -48,154 +33,7 @@ public final class PromiseTest {
         blocksMaximal();
         parentCall();
         changesCall();
-        System.out.println(checks + " checks, " + wrong + " wrong");
-        if (wrong > 0) {
-            System.exit(1);
-        }
-    }
-
-    // How to say what is due.
-
-    private static void due(String call, long got, long want) {
-        checks++;
-        if (got != want) {
-            wrong++;
-            System.out.println(part + ": " + call + " answered " + got + ", due is " + want);
-        }
-    }
-
-    private static void dueText(String call, String got, String want) {
-        checks++;
-        if (!got.equals(want)) {
-            wrong++;
-            System.out.println(part + ": " + call + " gave " + got.replace('\n', '|') + ", due is "
-                    + want.replace('\n', '|'));
-        }
-    }
-
-    private static void dueThrow(String call, Class<?> want, Call c) {
-        checks++;
-        Class<?> got = null;
-        try {
-            c.run();
-        } catch (RuntimeException e) {
-            got = e.getClass();
-        }
-        if (got != want) {
-            wrong++;
-            System.out.println(part + ": " + call + " threw " + got + ", due is " + want);
-        }
-    }
-
-    // How to fill a bench.
-
-    private static void draft(WitnessBench x, String letters) {
-        x.cut(0);
-        for (char c : letters.toCharArray()) {
-            x.type(c);
-        }
-    }
-
-    /** Words with spaces between them; ? is a gap. */
-    private static void witness(WitnessBench x, int w, String words) {
-        for (String word : words.split(" ")) {
-            draft(x, word.equals("?") ? "" : word);
-            x.word(w);
-        }
-    }
-
-    private static void rule(WitnessBench x, String left, String right) {
-        draft(x, left + right);
-        x.rule(left.length());
-    }
-
-    private static WitnessBench bench(String... witnesses) {
-        WitnessBench x = new WitnessBench();
-        for (int w = 0; w < witnesses.length; w++) {
-            if (!witnesses[w].isEmpty()) {
-                witness(x, w, witnesses[w]);
-            }
-        }
-        return x;
-    }
-
-    private static WitnessBench joined(String... witnesses) {
-        WitnessBench x = bench(witnesses);
-        for (int w = 0; w < witnesses.length; w++) {
-            if (!witnesses[w].isEmpty()) {
-                x.join(w);
-            }
-        }
-        return x;
-    }
-
-    // How to look at a bench.
-
-    private static String row(WitnessBench x, int w) {
-        StringBuilder b = new StringBuilder();
-        for (int p = 0; p < x.places(); p++) {
-            int i = x.at(p, w);
-            b.append(i == NONE ? "-" : "" + i);
-        }
-        return b.toString();
-    }
-
-    private static String out(WitnessBench x) {
-        StringBuilder b = new StringBuilder();
-        try {
-            for (int k = 0; k < 3000; k++) {
-                b.append((char) x.out(k));
-            }
-        } catch (IndexOutOfBoundsException e) {
-            return b.toString();
-        }
-        return "endless";
-    }
-
-    private static String out(WitnessBench x, int from, int to) {
-        StringBuilder b = new StringBuilder();
-        for (int k = from; k < to; k++) {
-            b.append((char) x.out(k));
-        }
-        return b.toString();
-    }
-
-    private static String built(WitnessBench x, int count) {
-        StringBuilder b = new StringBuilder();
-        for (int i = 0; i < count; i++) {
-            b.append(i == 0 ? "" : " ");
-            int k = 0;
-            for (int c = x.built(i, k); c != NONE; c = x.built(i, k)) {
-                b.append((char) c);
-                k++;
-            }
-        }
-        return b.toString();
-    }
-
-    private static String found(WitnessBench x, int count) {
-        StringBuilder b = new StringBuilder();
-        for (int i = 0; i < count; i++) {
-            b.append(i == 0 ? "" : " ").append(x.found(i));
-        }
-        return b.toString();
-    }
-
-    private static String blocks(WitnessBench x, int count) {
-        StringBuilder b = new StringBuilder();
-        for (int k = 0; k < count; k++) {
-            b.append(k == 0 ? "" : " ");
-            b.append(x.block(k, 0)).append(',').append(x.block(k, 1)).append(',').append(x.block(k, 2));
-        }
-        return b.toString();
-    }
-
-    /** Puts a text into OUT of the same length as what stands there. */
-    private static void overwrite(WitnessBench x, String text) {
-        dueText("length of OUT", "" + out(x).length(), "" + text.length());
-        for (int k = 0; k < text.length(); k++) {
-            x.amend(k, text.charAt(k));
-        }
+        tellAndExit();
     }
 
     // Promise 1.
@@ -527,17 +365,6 @@ public final class PromiseTest {
         due("12 and 8", r.join(1), 20);
         dueText("matches before it puts in: A", row(r, 0), "01-2");
         dueText("matches before it puts in: B", row(r, 1), "0123");
-    }
-
-    private static String far(char first, int words) {
-        StringBuilder b = new StringBuilder();
-        for (int k = 0; k < words; k++) {
-            b.append(k == 0 ? "" : " ");
-            for (int n = 0; n < 6; n++) {
-                b.append((char) (first + k));
-            }
-        }
-        return b.toString();
     }
 
     private static void joinLimits() {
