@@ -536,6 +536,8 @@ public final class BoundaryTest extends TestTools {
 
     private static void joinWithoutWords() {
         sentence("9 join", "or has no words");
+        refused("the first to be joined", STATE, WitnessBench::new, x -> x.join(0));
+        refused("another one is joined", STATE, () -> joined("a"), x -> x.join(1));
         WitnessBench x = bench("a");
         for (int w = 1; w < 4; w++) {
             int witness = w;
@@ -597,6 +599,9 @@ public final class BoundaryTest extends TestTools {
         dueThrow("all", INDEX, () -> x.at(0, 0));
         due("joined again", x.join(1), 40);
         due("five", x.places(), 5);
+        x.retract();
+        due("a shorter one is joined then", x.join(0), 16);
+        due("two", x.places(), 2);
         WitnessBench full = withAllPlaces("?");
         full.retract();
         due("of 24", full.places(), 17);
@@ -957,6 +962,12 @@ public final class BoundaryTest extends TestTools {
         x.amend(17, ';');
         due("a fault at the end", x.rebuild(0), -118);
         dueText("B is built still", built(x, 3), "c d ");
+        WitnessBench all = withAllPlaces("?");
+        all.base(NONE);
+        int length = all.apparatus(false);
+        dueText("the last of 24 entries", out(all, length - 22, length), "\n23 -] - AB; xxxxxx C\n");
+        all.amend(length - 11, '\n');
+        due("no entry comes behind the 24th", all.rebuild(0), -100 - (length - 10));
     }
 
     private static void rebuildNoWitness() {
@@ -1145,6 +1156,14 @@ public final class BoundaryTest extends TestTools {
         WitnessBench all = joined("a a a a a a a a a a", "a a a a a a a a a a");
         due("all slants but one, and those of one word", all.blocks(1, 0), 16);
         dueText("the shortest is the last", blocks(all, 16).substring(84), "7,0,3 8,0,2");
+        WitnessBench full = bench("a b", far('c', 10), "a b", far('c', 10));
+        full.join(0);
+        full.join(1);
+        full.join(3);
+        due("words behind the tenth are none, though another witness has some", full.blocks(0, 1), 0);
+        due("the other way round", full.blocks(1, 0), 0);
+        due("the last witness", full.blocks(0, 3), 0);
+        due("the last witness, the other way round", full.blocks(3, 0), 0);
     }
 
     private static void blocksNoWitness() {

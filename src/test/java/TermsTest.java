@@ -861,6 +861,12 @@ public final class TermsTest extends TestTools {
         x.apparatus(true);
         overwrite(x, "0 a] b B; x");
         dueText("a letter stood behind it before, and counts no more", read(x, 1), "fault at 11");
+        WitnessBench y = joined("a", "b", "b", "b");
+        y.apparatus(false);
+        dueText("a longer OUT", out(y), "0 a] a A; b BCD\n");
+        y.apparatus(true);
+        overwrite(y, "0 a] b B; x");
+        dueText("a space stood behind it before, and counts no more", read(y, 1), "fault at 11");
     }
 
     // Blocks.
